@@ -4,6 +4,7 @@ import java.lang.reflect.Modifier;
 import java.nio.charset.StandardCharsets;
 import java.util.ArrayList;
 import java.util.Arrays;
+import java.util.Collections;
 import java.util.Comparator;
 import java.util.List;
 import java.util.Random;
@@ -53,6 +54,9 @@ public final class RandomRunsTest {
             compare(seed, log, tested, model, "load", length);
             compare(seed, log, tested, model, "errorPosition");
             calls += 2;
+            districts = model.districtCount();
+            projects = model.projectCount();
+            voters = model.voterCount();
             int more = 30 + upTo(60);
             for (int i = 0; i < more && calls < 512; i++, calls++) {
                 Method m = methods.get(random.nextInt(methods.size()));
@@ -97,11 +101,19 @@ public final class RandomRunsTest {
         return upTo(20) == 0 ? new int[] {-1, 0, 1, 100000, 100001}[upTo(4)] : upTo(scale);
     }
 
+    private int letters(String name) {
+        int letters = 0;
+        for (int i = 0; i < 6; i++) {
+            letters = letters << 5 | (i < name.length() ? name.charAt(i) - 'a' + 1 : 0);
+        }
+        return upTo(4) == 0 ? letters ^ 1 << upTo(31) : letters;
+    }
+
     private Object argument(String name, int i) {
         switch (name) {
             case "districtNamed":
             case "projectNamed":
-                return upTo(3) == 0 ? random.nextInt() : (char) (upTo(16) + 1) << 25 | (upTo(4) == 0 ? 1 << 20 : 0);
+                return upTo(3) == 0 ? random.nextInt() : letters(name('a', upTo(16)));
             case "budgetOf":
                 return index(districts);
             case "costOf": case "districtsOf": case "supporters": case "votesFor": case "firstPrice": case "priceOf":
@@ -131,7 +143,7 @@ public final class RandomRunsTest {
             case "priceIn":
                 return i == 0 ? index(projects) : upTo(projects + 2) - 1;
             case "fundedWithBudget": case "setBudget":
-                return i == 0 ? index(districts) : money();
+                return i == 0 ? index(districts) : upTo(2) == 0 ? 4 * money() : money();
             case "fundedWithCost": case "setCost":
                 return i == 0 ? index(projects) : money();
             case "cheapestSet":
@@ -143,7 +155,7 @@ public final class RandomRunsTest {
             case "setApproval":
                 return i == 0 ? index(voters) : i == 1 ? index(projects) : (Object) random.nextBoolean();
             case "setSetting":
-                return i == 0 ? upTo(5) - 1 : upTo(1) == 0 ? upTo(2) : upTo(40) - 1;
+                return i == 0 ? upTo(5) - 1 : upTo(1) == 0 ? upTo(2) : upTo(9) == 0 ? 999 + upTo(2) : upTo(40) - 1;
             case "load":
                 return upTo(20) - 1;
             default:
@@ -152,21 +164,25 @@ public final class RandomRunsTest {
     }
 
     private String text() {
-        districts = upTo(8) == 0 ? upTo(4) : 1 + upTo(3);
-        projects = districts == 0 ? 0 : upTo(3) == 0 ? upTo(12) : 3 + upTo(4);
-        voters = districts == 0 ? 0 : upTo(3) == 0 ? upTo(24) : 2 + upTo(5);
+        districts = upTo(9) == 0 ? upTo(5) : 1 + upTo(3);
+        projects = districts == 0 ? 0 : upTo(3) == 0 ? upTo(13) : 3 + upTo(4);
+        voters = districts == 0 ? 0 : upTo(3) == 0 ? upTo(25) : 2 + upTo(6);
         scale = new int[] {10, 60, 300, 3000}[upTo(3)];
+        int dearest = 1 + scale / (1 + upTo(5));
+        int rich = 1 + upTo(5);
+        boolean oneDistrictEach = upTo(2) == 0;
+        boolean oneProjectEach = upTo(3) == 0;
         StringBuilder s = new StringBuilder();
         for (int d = 0; d < districts; d++) {
-            s.append("district ").append((char) ('a' + d)).append(' ').append(upTo(6) == 0 ? upTo(2) : upTo(scale)).append(';');
+            s.append("district ").append(name('a', d)).append(' ').append(upTo(6) == 0 ? upTo(2) : upTo(scale * rich)).append(';');
         }
         for (int p = 0; p < projects; p++) {
-            s.append("project ").append((char) ('e' + p)).append(' ').append(1 + upTo(scale)).append(some('a', districts)).append(';');
+            s.append("project ").append(name('e', p)).append(' ').append(1 + upTo(dearest)).append(some('a', districts, oneDistrictEach)).append(';');
         }
-        for (int v = 0; v < voters && s.length() < 1100; v++) {
-            s.append("voter ").append(upTo(2) == 0 ? 1 : 1 + upTo(8)).append(" in").append(some('a', districts));
+        for (int v = 0; v < voters; v++) {
+            s.append("voter ").append(upTo(2) == 0 ? 1 : 1 + upTo(8)).append(" in").append(some('a', districts, oneDistrictEach));
             if (projects > 0 && upTo(8) != 0) {
-                s.append(" for").append(some('e', projects));
+                s.append(" for").append(some('e', projects, oneProjectEach));
             }
             s.append(";\n");
         }
@@ -175,6 +191,10 @@ public final class RandomRunsTest {
             s.setLength(s.lastIndexOf(";", 1195) + 1);
         }
         return s.toString();
+    }
+
+    private static String name(char first, int index) {
+        return (char) (first + index) + "zyxwv".substring(0, (first + index) % 6);
     }
 
     private void settings(StringBuilder s) {
@@ -192,16 +212,16 @@ public final class RandomRunsTest {
         }
     }
 
-    private String some(char first, int count) {
+    private String some(char first, int count, boolean justOne) {
         List<Integer> all = new ArrayList<>();
         for (int i = 0; i < count; i++) {
             all.add(i);
         }
-        java.util.Collections.shuffle(all, random);
+        Collections.shuffle(all, random);
         StringBuilder s = new StringBuilder();
-        int take = 1 + Math.min(upTo(count - 1), upTo(count - 1));
+        int take = justOne ? 1 : 1 + Math.min(upTo(count - 1), upTo(count - 1));
         for (int i = 0; i < take; i++) {
-            s.append(' ').append((char) (first + all.get(i)));
+            s.append(' ').append(name(first, all.get(i)));
         }
         return s.toString();
     }
@@ -210,32 +230,28 @@ public final class RandomRunsTest {
         "order", "a", "b", "e", "f", "zz", "abcdef", "abcdefg", ";", ";", "0", "1", "9", "10", "100000", "100001", "007",
         "99999999999999999999", "%", "A", "\u00e9", "\t", "\n", "{", "`", "/", ":"};
 
+    /** Takes a text apart into tokens, and makes a few of them wrong, double, missing or changed in place. */
     private String spoil(String text) {
-        StringBuilder s = new StringBuilder(text);
+        List<String> tokens = new ArrayList<>(Arrays.asList(text.replace(";", " ; ").trim().split("[ \n]+")));
         int times = 1 + upTo(2);
         for (int i = 0; i < times; i++) {
-            int at = upTo(s.length());
-            String piece = PIECES[random.nextInt(PIECES.length)];
-            switch (upTo(3)) {
-                case 0 -> s.insert(at, piece);
-                case 1 -> s.insert(at, " " + piece + " ");
-                case 2 -> {
-                    int end = Math.min(s.length(), at + 1 + upTo(8));
-                    s.replace(at, end, upTo(1) == 0 ? "" : piece);
-                }
-                default -> {
-                    int space = s.indexOf(" ", at);
-                    int next = space < 0 ? -1 : s.indexOf(" ", space + 1);
-                    if (next > 0) {
-                        s.replace(space + 1, next, piece);
-                    }
-                }
+            int at = random.nextInt(tokens.size());
+            String other = upTo(1) == 0 ? tokens.get(random.nextInt(tokens.size())) : PIECES[random.nextInt(PIECES.length)];
+            switch (upTo(5)) {
+                case 0 -> tokens.add(at, other);
+                case 1 -> tokens.add(at, tokens.get(at));
+                case 2 -> tokens.replaceAll(t -> t.matches("[0-9]+") && upTo(20) == 0 ? "" + (upTo(1) == 0 ? 0 : 10) : t);
+                case 3 -> tokens.set(at, tokens.get(at) + other);
+                case 4 -> tokens.subList(at, Math.min(tokens.size(), at + upTo(3))).clear();
+                default -> tokens.set(at, other);
+            }
+            if (tokens.isEmpty()) {
+                tokens.add(other);
             }
         }
-        if (s.length() > 1200) {
-            s.setLength(1200);
-        }
-        return s.toString();
+        String glue = upTo(3) == 0 ? "\n" : upTo(3) == 0 ? "  " : " ";
+        String spoiled = String.join(glue, tokens) + " ".repeat(upTo(2));
+        return spoiled.substring(0, Math.min(spoiled.length(), 1200));
     }
 
     static List<Object[]> feeds(String text) {
