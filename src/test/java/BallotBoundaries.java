@@ -1,26 +1,13 @@
 /** Sentences of the promises 1 to 21, of the text and of what the ballot says, each with the cases at its edges. */
 final class BallotBoundaries extends Sentences {
-    /** Purses of 50; p is for the first voter alone, who has too little. */
-    private static final String RAISED = "district a 100;project p 80 a;voter 1 in a for p;voter 1 in a;set completion 2;";
     private static final int[] SPACES = {0x20202020, 0x20202020, 0x20202020, 0x20202020, 0x20202020};
 
-    private BallotBoundaries() {
-    }
+    static final Call[] TESTS = {BallotBoundaries::newObject, BallotBoundaries::feed, BallotBoundaries::load,
+        BallotBoundaries::loadWithErrors, BallotBoundaries::errorPosition, BallotBoundaries::counts, BallotBoundaries::names,
+        BallotBoundaries::districtsAndProjects, BallotBoundaries::voters, BallotBoundaries::getSetting,
+        BallotBoundaries::supportersAndVotes, BallotBoundaries::purse, BallotBoundaries::firstPrice};
 
-    static void run() {
-        newObject();
-        feed();
-        load();
-        loadWithErrors();
-        errorPosition();
-        counts();
-        names();
-        districtsAndProjects();
-        voters();
-        getSetting();
-        supportersAndVotes();
-        purse();
-        firstPrice();
+    private BallotBoundaries() {
     }
 
     private static int feedSpaces(ParticipatoryBudget x) {
@@ -97,6 +84,8 @@ final class BallotBoundaries extends Sentences {
         of("Replaces the ballot by the one described by the first length bytes of the input buffer (see TEXT FORMAT) and empties the buffer.");
         ParticipatoryBudget x = loaded(EXAMPLE);
         x.setSetting(WORTH, 1);
+        x.setSetting(STEP, 8);
+        due(x.fundedWithout(1), 5);
         feed(x, "district q 5;set step 7;");
         due(x.load(13), 1);
         due(x.districtCount(), 1);
@@ -106,6 +95,12 @@ final class BallotBoundaries extends Sentences {
         due(x.getSetting(STEP), 10);
         due(x.load(1), BAD);
         due(feedSpaces(x), 20);
+        for (int i = 0; i < 3; i++) {
+            load(x, "set worth 1;set completion 2;set step 7;set order 1;");
+            load(x, "set step 9;");
+            due(x.getSetting(WORTH) + x.getSetting(COMPLETION) + x.getSetting(ORDER), 0);
+            due(x.getSetting(STEP), 9);
+        }
         // nothing is left of a larger ballot, in no rule
         ParticipatoryBudget y = loaded(FULL_BALLOT + "set completion 1;");
         due(y.funded(EQUAL) + y.funded(GREEDY) + y.funded(BEST) > 0, true);

@@ -5,10 +5,11 @@ public final class BoundariesTest extends Sentences {
 
     public static void main(String[] args) throws Exception {
         readDocument("../shared/DOC.md");
-        DescriptionBoundaries.run();
-        BallotBoundaries.run();
-        RuleBoundaries.run();
-        ChangeBoundaries.run();
+        promise(0);
+        runAll(DescriptionBoundaries.TESTS);
+        runAll(BallotBoundaries.TESTS);
+        runAll(RuleBoundaries.TESTS);
+        runAll(ChangeBoundaries.TESTS);
         finish();
     }
 }

@@ -2,18 +2,11 @@
 final class ChangeBoundaries extends Sentences {
     private static final int[] WRONG_INDICES = {-1, 24, 25, MIN, MAX};
 
-    private ChangeBoundaries() {
-    }
+    static final Call[] TESTS = {ChangeBoundaries::sameValues, ChangeBoundaries::setBudget, ChangeBoundaries::setCost,
+        ChangeBoundaries::setWeight, ChangeBoundaries::setMember, ChangeBoundaries::setApproval, ChangeBoundaries::setSetting,
+        ChangeBoundaries::undo};
 
-    static void run() {
-        sameValues();
-        setBudget();
-        setCost();
-        setWeight();
-        setMember();
-        setApproval();
-        setSetting();
-        undo();
+    private ChangeBoundaries() {
     }
 
     private static void sameValues() {
@@ -52,10 +45,10 @@ final class ChangeBoundaries extends Sentences {
         for (int i = 0; i < 10; i++) {
             y.setSetting(WORTH, 1);
         }
-        while (y.undo() > 0) {
+        for (int i = 9; i >= 0; i--) {
+            due(y.undo(), i);
             due(y.getSetting(WORTH), 1);
         }
-        due(y.getSetting(WORTH), 1);
         due(y.undo(), NONE);
     }
 

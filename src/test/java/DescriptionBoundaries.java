@@ -1,37 +1,17 @@
 /** The sentences of the section "Description", each with the cases at its edges. */
 final class DescriptionBoundaries extends Sentences {
     private static final String FOUR_DISTRICTS = "district a 1;district b 1;district c 1;district d 1;";
-    /** Purses of 50; p is for the first voter alone, who has too little. */
-    private static final String RAISED = "district a 100;project p 80 a;voter 1 in a for p;voter 1 in a;set completion 2;";
+
+    static final Call[] TESTS = {DescriptionBoundaries::counts, DescriptionBoundaries::ranges, DescriptionBoundaries::support,
+        DescriptionBoundaries::settings, DescriptionBoundaries::purses, DescriptionBoundaries::payments,
+        DescriptionBoundaries::rounds, DescriptionBoundaries::prices, DescriptionBoundaries::choices,
+        DescriptionBoundaries::shares, DescriptionBoundaries::completion, DescriptionBoundaries::raises,
+        DescriptionBoundaries::endOfRaises, DescriptionBoundaries::greedyOrder, DescriptionBoundaries::greedyPayments,
+        DescriptionBoundaries::best, DescriptionBoundaries::changes, DescriptionBoundaries::refusedCalls,
+        DescriptionBoundaries::tokens, DescriptionBoundaries::grammar, DescriptionBoundaries::names,
+        DescriptionBoundaries::errorOrder, DescriptionBoundaries::errors};
 
     private DescriptionBoundaries() {
-    }
-
-    static void run() {
-        promise(0);
-        counts();
-        ranges();
-        support();
-        settings();
-        purses();
-        payments();
-        rounds();
-        prices();
-        choices();
-        shares();
-        completion();
-        raises();
-        endOfRaises();
-        greedyOrder();
-        greedyPayments();
-        best();
-        changes();
-        refusedCalls();
-        tokens();
-        grammar();
-        names();
-        errorOrder();
-        errors();
     }
 
     /** As large as a ballot can be, with everybody for everything. */
@@ -148,7 +128,7 @@ final class DescriptionBoundaries extends Sentences {
 
     private static void purses() {
         of("A voter has one purse for each district of which the voter is a member.");
-        ParticipatoryBudget x = loaded("district a 8;district b 8;district c 8;voter 1 in a c;");
+        ParticipatoryBudget x = loaded("district a 8;district b 8;district c 8;voter 1 in a c;voter 1 in b;");
         due(x.purse(0, 0), 8);
         due(x.purse(0, 1), 0);
         due(x.purse(0, 2), 8);
@@ -260,8 +240,16 @@ final class DescriptionBoundaries extends Sentences {
         ParticipatoryBudget y = loaded("district a 10;district b 90;project p 1 a b;voter 1 in a for p;voter 1 in b for p;");
         price(y, 20, 10);
         price(y, 21, 11);
+        price(y, 22, 12);
         price(y, 100, 90);
         price(y, 101, NONE);
+        // means of 25 and 90 at weights of 9 and 1
+        ParticipatoryBudget w = loaded("district a 25;district b 90;project p 1 a b;voter 9 in a for p;voter 1 in b for p;");
+        price(w, 20, 2);
+        price(w, 21, 3);
+        price(w, 28, 3);
+        price(w, 29, 4);
+        price(w, 115, 90);
         // a means of nothing, and prices that are as high as can be
         ParticipatoryBudget z = loaded("district a 100000;district b 0;project p 1 a b;voter 1 in a for p;voter 9 in b for p;");
         price(z, 1, 1);
@@ -315,10 +303,12 @@ final class DescriptionBoundaries extends Sentences {
         due(shares(x, 18), "9 6 3");
         due(shares(x, 23), "12 7 4");
         due(shares(x, 27), "15 7 5");
+        due(shares(x, 31), "18 7 6");
         due(shares(x, 207), "100 7 100");
 
         of("If this is more than the cost altogether, the excess is taken off from the supporters in descending order of their indices: each one "
                 + "pays as much less as is left of the excess, but at most as much less that the voter still pays what it would be with q - 1 in place of q.");
+        due(shares(x, 24), "13 7 4");
         due(shares(x, 22), "12 7 3");
         due(shares(x, 21), "12 6 3");
         due(shares(x, 20), "11 6 3");
@@ -609,6 +599,17 @@ final class DescriptionBoundaries extends Sentences {
             due(x.undoCount(), 0);
         }
 
+        ParticipatoryBudget u = loaded("set worth 1;set completion 1;set step 5;set order 1;");
+        for (int s = 0; s < 4; s++) {
+            int before = u.getSetting(s);
+            u.setSetting(s, s == STEP ? 7 : 0);
+            u.setSetting(s, 1);
+            u.undo();
+            due(u.getSetting(s), s == STEP ? 7 : 0);
+            u.undo();
+            due(u.getSetting(s), before);
+        }
+
         of("At most the 10 latest changes are kept.");
         ParticipatoryBudget z = loaded(EXAMPLE);
         for (int i = 1; i <= 11; i++) {
@@ -622,6 +623,20 @@ final class DescriptionBoundaries extends Sentences {
         due(z.undo(), NONE);
         due(z.costOf(0), 1);
         due(z.projectCount(), 3);
+        // of changes of different kinds, to different things, the first two are forgotten
+        ParticipatoryBudget w = loaded(EXAMPLE);
+        for (int i = 0; i < 2; i++) {
+            for (int kind = 0; kind < 6; kind++) {
+                change(w, (kind + i) % 6);
+            }
+        }
+        for (int i = 9; i >= 0; i--) {
+            due(w.undo(), i);
+        }
+        ParticipatoryBudget v = loaded(EXAMPLE);
+        change(v, 0);
+        change(v, 1);
+        due(state(w), state(v));
     }
 
     private static void refusedCalls() {

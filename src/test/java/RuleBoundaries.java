@@ -1,7 +1,5 @@
 /** Sentences of the promises 22 to 58, of what the rules decide, each with the cases at its edges. */
 final class RuleBoundaries extends Sentences {
-    /** Purses of 50; p is for the first voter alone, who has too little; three raises of 10 will do. */
-    private static final String RAISED = "district a 100;project p 80 a;voter 1 in a for p;voter 1 in a;set completion 2;";
     /** Without raise q is funded alone; with the one raise that counts p is. */
     private static final String LOST = "district a 5;project p 4 a;project q 3 a;voter 2 in a for p q;voter 1 in a;set completion 2;set step 2;";
     /** Purses of 50, 33 and 16; GREEDY funds p, or q and r with ORDER 1; EQUAL funds none. */
@@ -11,41 +9,16 @@ final class RuleBoundaries extends Sentences {
     /** Twelve projects of 1, and one voter who has 12 for all of them. */
     private static final String TWELVE = "district a 12;" + projects(12, "1 a") + "voter 1 in a for m n o p q r s t u v w x;";
 
-    private RuleBoundaries() {
-    }
+    static final Call[] TESTS = {RuleBoundaries::funded, RuleBoundaries::fundedAt, RuleBoundaries::priceOf, RuleBoundaries::paidBy,
+        RuleBoundaries::paidFrom, RuleBoundaries::leftOf, RuleBoundaries::pursesBehind, RuleBoundaries::raises,
+        RuleBoundaries::completed, RuleBoundaries::sums, RuleBoundaries::worstOff, RuleBoundaries::leftOut,
+        RuleBoundaries::claimOf, RuleBoundaries::unjust, RuleBoundaries::changedWithout, RuleBoundaries::greedyLimit,
+        RuleBoundaries::canBePaid, RuleBoundaries::commonAndSpread, RuleBoundaries::lossAndBestWithout, RuleBoundaries::endowment,
+        RuleBoundaries::payers, RuleBoundaries::roundOf, RuleBoundaries::commonSupport, RuleBoundaries::priceIn,
+        RuleBoundaries::fundedWithBudget, RuleBoundaries::fundedWithCost, RuleBoundaries::fundedWithout,
+        RuleBoundaries::cheapestSet, RuleBoundaries::districtWelfare, RuleBoundaries::rankOf, RuleBoundaries::richest};
 
-    static void run() {
-        funded();
-        fundedAt();
-        priceOf();
-        paidBy();
-        paidFrom();
-        leftOf();
-        pursesBehind();
-        raises();
-        completed();
-        sums();
-        worstOff();
-        leftOut();
-        claimOf();
-        unjust();
-        changedWithout();
-        greedyLimit();
-        canBePaid();
-        commonAndSpread();
-        lossAndBestWithout();
-        endowment();
-        payers();
-        roundOf();
-        commonSupport();
-        priceIn();
-        fundedWithBudget();
-        fundedWithCost();
-        fundedWithout();
-        cheapestSet();
-        districtWelfare();
-        rankOf();
-        richest();
+    private RuleBoundaries() {
     }
 
     /** EQUAL funds z and y in the rounds and x in the completion. */
@@ -180,7 +153,9 @@ final class RuleBoundaries extends Sentences {
         ParticipatoryBudget y = loaded(RAISED);
         due(y.purseLeft(1, 0), 80);
         y.setMember(1, 0, false);
-        y.setCost(0, 100);
+        y.setCost(0, 115);
+        due(y.raises(), 1);
+        due(y.purseLeft(0, 0), 110);
         due(y.purseLeft(1, 0), 0);
         y.setCost(0, 90);
         y.setMember(1, 0, true);
@@ -307,6 +282,8 @@ final class RuleBoundaries extends Sentences {
         due(y.claimOf(EQUAL, 0), 25);
         y.setApproval(1, 0, false);
         due(y.claimOf(EQUAL, 0), 0);
+        ParticipatoryBudget z = loaded("district a 66;district b 0;project p 99 a;" + "voter 1 in a for p;".repeat(22) + "voter 1 in b for p;voter 1 in a;");
+        due(z.claimOf(BEST, 0), 44);
         of("Returns the number of units, 0 if the project is funded;");
         for (int rule = 0; rule < 3; rule++) {
             due(y.claimOf(rule, 1), 0);
@@ -318,7 +295,7 @@ final class RuleBoundaries extends Sentences {
         threeRules(rule -> y.claimOf(rule, 0));
         of("Throws `IndexOutOfBoundsException` if project is not a valid index (checked first)");
         for (int rule : new int[] {EQUAL, GREEDY, BEST, -1, 3}) {
-            projectIndex((z, p) -> z.claimOf(rule, p));
+            projectIndex((w, p) -> w.claimOf(rule, p));
         }
     }
 
@@ -333,6 +310,12 @@ final class RuleBoundaries extends Sentences {
         due(x.unjust(GREEDY), 2);
         x.setCost(1, 33);
         due(x.unjust(GREEDY), 1);
+        // purses of 3 and 6; q leaves 2
+        ParticipatoryBudget y = loaded("district a 10;project p 3 a;project q 8 a;voter 1 in a for p;voter 2 in a for q;");
+        due(y.funded(GREEDY), 2);
+        due(y.unjust(GREEDY), 0);
+        y.setCost(0, 4);
+        due(y.unjust(GREEDY), NONE);
         of("NOT_FOUND if there is none: the rule represents all;");
         x.setCost(1, 34);
         x.setCost(2, 34);
@@ -366,6 +349,7 @@ final class RuleBoundaries extends Sentences {
         of("Returns the projects as a bit set: those funded now and not then, or then and not now.");
         // y and z now, x alone then
         due(x.funded(EQUAL), 6);
+        due(x.changedWithout(2), 7);
         for (int p = 0; p < 3; p++) {
             x.setApproval(2, p, false);
         }

@@ -23,6 +23,8 @@ abstract class Sentences {
     /** The document's first example. */
     static final String EXAMPLE = "set worth 0;district a 100;district b 60;project x 50 a;project y 60 a b;project z 40 b;"
             + "voter 1 in a for x y;voter 1 in a for x;voter 2 in a b for y z;voter 1 in b for z;";
+    /** Purses of 50; p is for the first voter alone, who has too little. */
+    static final String RAISED = "district a 100;project p 80 a;voter 1 in a for p;voter 1 in a;set completion 2;";
     /** As many districts, projects and voters as there may be. */
     static final String FULL_BALLOT = "district a 50;district b 60;district c 70;district d 80;" + projects(12, "9 a d")
             + "voter 1 in a b for m n;".repeat(12) + "voter 9 in c d for w x;".repeat(12);
@@ -107,6 +109,7 @@ abstract class Sentences {
 
     static void promise(int number) {
         promise = number;
+        sentence = "";
     }
 
     /** What is asked from here on tests this sentence. */
@@ -240,7 +243,7 @@ abstract class Sentences {
     static ParticipatoryBudget loaded(String text) {
         ParticipatoryBudget x = new ParticipatoryBudget();
         if (load(x, text) < 0) {
-            throw new IllegalStateException("a text of the tests is wrong: " + text);
+            fault("refused: " + text);
         }
         return x;
     }
@@ -274,6 +277,17 @@ abstract class Sentences {
             all.addAll(List.of(x.leftOut(rule), x.unjust(rule), x.spread(rule)));
         }
         return all.toString();
+    }
+
+    /** A test that throws is a fault of the sentence that it was at; the others are run all the same. */
+    static void runAll(Call... tests) {
+        for (Call test : tests) {
+            try {
+                test.run();
+            } catch (RuntimeException e) {
+                fault("threw " + e);
+            }
+        }
     }
 
     // ---- the end
