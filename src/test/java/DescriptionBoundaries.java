@@ -250,6 +250,14 @@ final class DescriptionBoundaries extends Sentences {
         price(w, 28, 3);
         price(w, 29, 4);
         price(w, 115, 90);
+        // means of 1, 25 and 100
+        ParticipatoryBudget v = loaded("district a 1;district b 25;district c 100;project p 1 a b c;voter 1 in a for p;voter 1 in b for p;voter 1 in c for p;");
+        price(v, 3, 1);
+        price(v, 4, 2);
+        price(v, 51, 25);
+        price(v, 60, 34);
+        price(v, 126, 100);
+        price(v, 127, NONE);
         // a means of nothing, and prices that are as high as can be
         ParticipatoryBudget z = loaded("district a 100000;district b 0;project p 1 a b;voter 1 in a for p;voter 9 in b for p;");
         price(z, 1, 1);
@@ -404,6 +412,9 @@ final class DescriptionBoundaries extends Sentences {
         due(y.raises(), 5);
         due(y.funded(EQUAL), 0);
         due(y.fundedWithCost(0, 100), 1);
+        String four = "district a 1000;district b 1000;district c 1000;district d 100;project p 101 d;voter 1 in a d for p;voter 1 in d;set completion 2;";
+        due(loaded(four).raises(), 5);
+        due(loaded(four).leftOf(EQUAL, 3), 100);
         // each of the two is not too dear alone
         ParticipatoryBudget z = loaded("district a 100;project p 60 a;project q 40 a;voter 1 in a for p;voter 1 in a for q;set completion 2;");
         due(z.raises(), 1);
@@ -732,6 +743,16 @@ final class DescriptionBoundaries extends Sentences {
         error("district a 5 a;", SYNTAX, 13);
         error("project 5 a;", SYNTAX, 8);
         error("project p a;", SYNTAX, 10);
+        String one = "district a 1;";
+        for (String begun : "district,district e,project,project p,project p 1".split(",")) {
+            error(one + begun + ";", SYNTAX, one.length() + begun.length());
+        }
+        for (String word : "in for worth completion step order name".split(" ")) {
+            error(one + word + " e 5;", SYNTAX, one.length());
+            error(one + word + " p 1 a;", SYNTAX, one.length());
+        }
+        error(one + "project e 5;", SYNTAX, one.length() + 11);
+        error(one + "district p 1 a;", SYNTAX, one.length() + 13);
 
         of("| \"voter\" weight \"in\" district { district } [ \"for\" project { project } ] | \"set\" setting integer");
         String all = FOUR_DISTRICTS + projects(12, "1 a");
@@ -745,7 +766,19 @@ final class DescriptionBoundaries extends Sentences {
         error(all + "voter 1 in a 5;", SYNTAX, all.length() + 13);
         error(all + "voter 1 in a for m for n;", SYNTAX, all.length() + 19);
         error(all + "voter 1 for m in a;", SYNTAX, all.length() + 8);
-        error("set step;", SYNTAX, 8);
+        for (String begun : "voter,voter 1,voter 1 in,voter 1 in a for,set,set step".split(",")) {
+            error(all + begun + ";", SYNTAX, all.length() + begun.length());
+        }
+        for (String word : "district project voter for set worth completion step order name".split(" ")) {
+            error(all + "voter 1 " + word + " a;", SYNTAX, all.length() + 8);
+        }
+        for (String word : "district project voter in set worth completion step order".split(" ")) {
+            error(all + "voter 1 in a " + word + " m;", SYNTAX, all.length() + 13);
+        }
+        for (String word : "in for worth completion step order name".split(" ")) {
+            error(all + word + " 1 in a;", SYNTAX, all.length());
+            error(all + word + " worth 1;", SYNTAX, all.length());
+        }
         error("set 5;", SYNTAX, 4);
         error("set step a;", SYNTAX, 9);
         error("set step 1 1;", SYNTAX, 11);

@@ -657,6 +657,8 @@ final class RuleBoundaries extends Sentences {
         due(x.cheapestSet(5), 5);
         due(x.cheapestSet(6), 6);
         due(x.cheapestSet(8), 7);
+        due(loaded(TWELVE).cheapestSet(12), 4095);
+        due(loaded(TWELVE).cheapestSet(13), NONE);
         x.setSetting(WORTH, 1);
         due(x.cheapestSet(120), 4);
         due(x.cheapestSet(121), 2);
