@@ -12,6 +12,8 @@ import java.util.Random;
 /** Random runs of calls, answered by the class and by the model; each call must be answered alike. */
 public final class RandomRunsTest {
     private static final int RUNS = 400;
+    /** What later calls of an object answer is free. */
+    private static final int MOST_CALLS = 512;
     private final Random random;
     private final List<Method> methods = new ArrayList<>();
     private int districts, projects, voters, scale;
@@ -43,22 +45,23 @@ public final class RandomRunsTest {
         ParticipatoryBudget tested = new ParticipatoryBudget();
         Model model = new Model();
         List<String> log = new ArrayList<>();
-        int calls = 0;
-        while (calls < 512) {
+        while (log.size() < MOST_CALLS) {
             String text = upTo(3) == 0 ? spoil(text()) : text();
-            for (Object[] four : feeds(text)) {
-                compare(seed, log, tested, model, "feed", four);
-                calls++;
+            List<Object[]> feeds = feeds(text);
+            if (log.size() + feeds.size() + 2 > MOST_CALLS) {
+                return;
+            }
+            for (Object[] five : feeds) {
+                compare(seed, log, tested, model, "feed", five);
             }
             int length = upTo(30) == 0 ? text.length() + upTo(60) - 30 : text.length();
             compare(seed, log, tested, model, "load", length);
             compare(seed, log, tested, model, "errorPosition");
-            calls += 2;
             districts = model.districtCount();
             projects = model.projectCount();
             voters = model.voterCount();
             int more = 30 + upTo(60);
-            for (int i = 0; i < more && calls < 512; i++, calls++) {
+            for (int i = 0; i < more && log.size() < MOST_CALLS; i++) {
                 Method m = methods.get(random.nextInt(methods.size()));
                 if (m.getName().equals("feed") || m.getName().equals("load") && upTo(9) != 0) {
                     continue;
@@ -167,14 +170,14 @@ public final class RandomRunsTest {
         districts = upTo(9) == 0 ? upTo(5) : 1 + upTo(3);
         projects = districts == 0 ? 0 : upTo(3) == 0 ? upTo(13) : 3 + upTo(4);
         voters = districts == 0 ? 0 : upTo(3) == 0 ? upTo(25) : 2 + upTo(6);
-        scale = new int[] {10, 60, 300, 3000}[upTo(3)];
+        scale = new int[] {10, 60, 300, 3000, 100000}[upTo(4)];
         int dearest = 1 + scale / (1 + upTo(5));
         int rich = 1 + upTo(5);
         boolean oneDistrictEach = upTo(2) == 0;
         boolean oneProjectEach = upTo(3) == 0;
         StringBuilder s = new StringBuilder();
         for (int d = 0; d < districts; d++) {
-            s.append("district ").append(name('a', d)).append(' ').append(upTo(6) == 0 ? upTo(2) : upTo(scale * rich)).append(';');
+            s.append("district ").append(name('a', d)).append(' ').append(upTo(6) == 0 ? upTo(2) : upTo(Math.min(scale * rich, 100000))).append(';');
         }
         for (int p = 0; p < projects; p++) {
             s.append("project ").append(name('e', p)).append(' ').append(1 + upTo(dearest)).append(some('a', districts, oneDistrictEach)).append(';');
@@ -205,7 +208,7 @@ public final class RandomRunsTest {
             s.append("set completion ").append(upTo(2)).append(';');
         }
         if (upTo(1) == 0) {
-            s.append("set step ").append(1 + upTo(scale < 60 ? 3 : 20)).append(';');
+            s.append("set step ").append(1 + upTo(scale < 60 ? 3 : scale < 100000 ? 20 : 999)).append(';');
         }
         if (upTo(1) == 0) {
             s.append("set order ").append(upTo(1)).append(';');
