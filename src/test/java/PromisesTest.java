@@ -528,6 +528,8 @@ public final class PromisesTest {
         y.setCost(0, 101);
         due(y.firstPrice(0), NONE);
         due(loaded("district a 9;project p 5 a;voter 1 in a;").firstPrice(0), NONE);
+        // 10 are too few by one with a price of 1; with 2 the heavy voter is out of means, but there is one to spare
+        due(loaded("district a 10;district b 2;project p 11 a b;voter 9 in a for p;voter 1 in b for p;").firstPrice(0), 2);
         // it stays what it is without raise
         ParticipatoryBudget z = loaded(RAISED);
         due(z.firstPrice(0), NONE);
@@ -899,6 +901,9 @@ public final class PromisesTest {
         due(x.funded(GREEDY), 1);
         due(x.unjust(GREEDY), 2);
         x.setCost(1, 33);
+        due(x.unjust(GREEDY), 1);
+        x.setCost(1, 20);
+        due(x.claimOf(GREEDY, 1), 33);
         due(x.unjust(GREEDY), 1);
         x.setCost(1, 34);
         x.setCost(2, 34);
